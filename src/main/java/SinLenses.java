@@ -944,23 +944,32 @@ public final class SinLenses {
 
         private void split() {
             tokenCount = 0;
-            int past = 0;
-            for (int from = 0; from < length && tokenCount < TAPE; from = past) {
-                past = from + 1;
-                int sort = sortOf(byteAt(from));
-                for (int n = 0; n < TAPE && sort != ALONE && sortOf(byteAt(past)) == sort; n++) {
-                    past++;
-                }
-                if (byteAt(from) != BLANK) {
-                    int sign = sort == DIGIT ? A_NUMBER : byteAt(from) + SIGNS;
-                    tokens[tokenCount] = sort == LETTER ? nameOf(from, past) : sign;
-                    starts[tokenCount] = from;
-                    values[tokenCount] = sort == DIGIT ? numberOf(from, past) : 0;
+            for (int place = 0; place < length && tokenCount < TAPE; place++) {
+                if (startsToken(place)) {
+                    int sort = sortOf(byteAt(place));
+                    int past = pastToken(place);
+                    int sign = sort == DIGIT ? A_NUMBER : byteAt(place) + SIGNS;
+                    tokens[tokenCount] = sort == LETTER ? nameOf(place, past) : sign;
+                    starts[tokenCount] = place;
+                    values[tokenCount] = sort == DIGIT ? numberOf(place, past) : 0;
                     tokenCount++;
                 }
             }
             tokens[tokenCount] = THE_END;
             starts[tokenCount] = length;
+        }
+
+        private boolean startsToken(int place) {
+            int sort = sortOf(byteAt(place));
+            return sort == ALONE ? byteAt(place) != BLANK : sortOf(byteAt(place - 1)) != sort;
+        }
+
+        private int pastToken(int from) {
+            int past = from + 1;
+            while (past < length && !startsToken(past) && byteAt(past) != BLANK) {
+                past++;
+            }
+            return past;
         }
 
         private static int sortOf(int sign) {
