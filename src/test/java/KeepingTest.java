@@ -8,6 +8,7 @@ public final class KeepingTest {
         notKept();
         counts();
         statuses();
+        refusals();
         DUE.end();
     }
 
@@ -159,6 +160,56 @@ public final class KeepingTest {
         x.forget();
         x.end(0);
         DUE.is(42, "status() behind calls that do not bear on it", x.status(), want < 0 ? want : 0);
+    }
+
+    /** Each call with each that it can be REFUSED by. */
+    private static void refusals() {
+        SinLenses x = Due.under("bars", 6);
+        status(x, "person()", x.person(), -5);
+        status(x, "glass(0, 9)", x.glass(0, 9), -1);
+        status(x, "glass(6, 1)", x.glass(6, 1), -2);
+        status(x, "wanted(0, 4)", x.wanted(0, 4), -1);
+        status(x, "wanted(6, 1)", x.wanted(6, 1), -2);
+        status(x, "terms(0, -1)", x.terms(0, -1), -1);
+        status(x, "row()", x.row(), -6);
+        status(x, "law()", Due.law(x, "1"), -6);
+        status(x, "orders()", Due.orders(x, "1"), -6);
+        status(x, "orders()", Due.orders(x, "grind 0"), -3);
+        status(x, "force(1)", x.force(1), -2);
+        status(x, "sin(0, 4, 1)", x.sin(0, 4, 1), -1);
+        status(x, "sin(6, 0, 1)", x.sin(6, 0, 1), -2);
+        status(x, "sin(0, 0, -1)", x.sin(0, 0, -1), -3);
+        status(x, "grind(6)", x.grind(6), -2);
+        status(x, "grind(0)", x.grind(0), -3);
+        status(x, "swap(0, 0)", x.swap(0, 0), -1);
+        status(x, "swap(0, 6)", x.swap(0, 6), -2);
+        status(x, "cloth(6)", x.cloth(6), -2);
+        status(x, "cloth(0)", x.cloth(0), -3);
+        x.terms(0, 999);
+        status(x, "pass()", x.pass(), -3);
+        status(x, "undo()", x.undo(), -3);
+        status(x, "saw(0, 256)", x.saw(0, 256), -1);
+        status(x, "saw(6, 0)", x.saw(6, 0), -2);
+        for (int n = 0; n < 8; n++) {
+            x.saw(0, n);
+        }
+        DUE.is(42, "saw(0, 0)", x.saw(0, 0), -5);
+        DUE.is(42, "status() behind saw(0, 0)", x.status(), -5);
+        status(x, "months(0, 0)", x.months(0, 0), -1);
+        status(x, "image(2)", x.image(2), -1);
+        status(x, "back(2)", x.back(2), -1);
+        status(x, "back(1)", x.back(1), -2);
+        for (int n = 0; n < 5; n++) {
+            Due.law(x, "bars");
+        }
+        status(x, "law()", x.law(), -5);
+        int[] want = {9, 9, 6, 3, 3};
+        for (int n = 0; n < 5; n++) {
+            DUE.is(41, "count(" + (6 + n) + ")", x.count(6 + n), want[n]);
+        }
+        SinLenses nobody = new SinLenses();
+        DUE.is(42, "months() of nobody", nobody.months(0, 1), -3);
+        DUE.is(42, "status() behind it", nobody.status(), -3);
     }
 
     private static void statuses() {

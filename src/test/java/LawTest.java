@@ -137,6 +137,14 @@ public final class LawTest {
         DUE.is(13, "mood", does("mood - 6"), 1);
         SinLenses dark = Due.under("does first - 6", 1);
         DUE.is(13, "first of none", dark.of(0, 10), 2);
+        SinLenses low = Due.under("does 3 - first", 1);
+        low.terms(3, 129);
+        DUE.is(13, "first is 0", low.of(0, 10), 3);
+        low.terms(3, 128);
+        DUE.is(13, "first is 7", low.of(0, 10), 0);
+        SinLenses high = Due.under("does first - 5", 1);
+        high.terms(3, 128);
+        DUE.is(13, "first is 7", high.of(0, 10), 2);
         SinLenses x = Due.under("grinds sight + lit + first + 9; grows person + kind * 2 + sin - sins", 2);
         x.terms(3, 255);
         x.sin(1, 3, 4);

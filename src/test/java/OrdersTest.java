@@ -105,6 +105,10 @@ public final class OrdersTest {
         so(x, "does 0 = 0", 1);
         so(x, "sins 3 = 0 - 1 and sight 4 = 0 - 1 and does 5 = 0 - 1", 1);
         so(x, "sins 1 = 5", 0);
+        SinLenses fresh = Due.parish(6);
+        fresh.terms(3, 7);
+        fresh.sin(5, 0, 8);
+        DUE.is(14, "does, sight, sins of the last", Due.orders(fresh, "pass if does 5 = 3 and sight 5 = 7 and sins 5 = 8"), 1);
         SinLenses y = Due.parish(2);
         DUE.is(14, "done counts what was run", Due.orders(y, "pass times 2; pass times 3 if day = 9; sin 0 of done if done = 2"), 3);
         DUE.is(14, "its KIND was done", y.of(0, 2), 1);

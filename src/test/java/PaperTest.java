@@ -141,7 +141,12 @@ public final class PaperTest {
         x.saw(2, 3);
         DUE.is(27, "two", x.scenes(-1), 2);
         DUE.is(27, "scenes(1)", x.scenes(1), 135);
+        x.glass(1, 0);
         x.saw(1, 7);
+        DUE.is(27, "one", x.scenes(-1), 1);
+        DUE.is(28, "ask(0) of one", x.ask(0), 0);
+        DUE.is(28, "ask(1) of one", x.ask(1), 1);
+        x.saw(1, 6);
         DUE.is(27, "none", x.scenes(-1), 0);
         DUE.is(27, "scenes(0) of none", x.scenes(0), -1);
         DUE.is(28, "ask(0) of none", x.ask(0), -1);
@@ -380,6 +385,12 @@ public final class PaperTest {
         DUE.is(35, "two", x.mildest(0), 24);
         x.wanted(0, 2);
         DUE.is(35, "none does", x.mildest(0), -1);
+        x.terms(3, 15);
+        x.force(Due.law(x, "does 0; does 2 if sight = 3"));
+        DUE.is(35, "the last of all", x.mildest(0), 88);
+        x.terms(3, 3);
+        x.force(Due.law(x, "does 0; does 2 if sight = 254"));
+        DUE.is(35, "the last but one", x.mildest(0), 87);
         DUE.is(35, "mildest(1)", x.mildest(1), -1);
         DUE.is(35, "mildest(-1)", x.mildest(-1), -1);
     }

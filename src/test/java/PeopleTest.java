@@ -44,12 +44,13 @@ public final class PeopleTest {
         SinLenses y = Due.parish(1);
         y.image(0);
         y.person();
-        y.sin(1, 2, 5);
+        y.sin(1, 0, 5);
+        y.sin(1, 3, 5);
         y.glass(1, 3);
         y.wanted(1, 2);
         y.back(0);
         y.person();
-        DUE.is(2, "a PERSON anew is without SINS", y.of(1, 2), 0);
+        DUE.is(2, "a PERSON anew is without SINS", y.count(1), 0);
         DUE.is(2, "a PERSON anew is without LENSES", y.of(1, 4), 0);
         DUE.is(2, "of a PERSON anew 0 is WANTED", y.of(1, 11), 0);
     }
