@@ -104,6 +104,13 @@ public final class LawTest {
         fault("bars if ((((([[[[1]]]]=1)))))", 16);
         fault("bars if " + Due.row("([1]=1)", "and", 20), -1);
         fault("bars if " + Due.row("not", " ", 90) + " 1=1", -1);
+        fault("bars" + Due.row(" ", "", 396), -1);
+        fault("bars;" + Due.row(" ", "", 395), 400);
+        fault(Due.row(";", "", 400), 0);
+        fault("bars if " + Due.row("(", "", 392), 16);
+        // Six PARTS each: the 51st is the third of the ninth.
+        fault(Due.row("does [day]+1/[1+1] if ([1]=1)", ";", 8), -1);
+        fault(Due.row("does [day]+1/[1+1] if ([1]=1)", ";", 9), 254);
     }
 
     /** What "does" SUM comes to under a LAW, 0 .. 3. */

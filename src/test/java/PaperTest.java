@@ -152,6 +152,12 @@ public final class PaperTest {
         DUE.is(28, "ask(0) of none", x.ask(0), -1);
         DUE.is(28, "ask(1) of none", x.ask(1), -1);
         x.forget();
+        // Of eight CELLS 236 times no five, 208 times no four stand lit in a row.
+        x.glass(0, 8888);
+        x.glass(1, 888);
+        x.glass(2, 888);
+        DUE.is(28, "of all SCENES", x.ask(0), 1);
+        DUE.is(28, "how many are left", x.ask(1), 208);
         DUE.is(28, "ask(2)", x.ask(2), -1);
         DUE.is(28, "ask(-1)", x.ask(-1), -1);
     }
