@@ -369,6 +369,8 @@ public final class PaperTest {
         DUE.is(34, "that in FORCE stays", x.count(11), 0);
         DUE.is(34, "the GLASS stays", x.of(0, 5), 0);
         DUE.is(34, "ground(2, 0)", x.ground(2, 0), -1);
+        Due.law(x, "bars; grinds 3 if kind < 3");
+        DUE.is(34, "BARRED or not", x.ground(2, 1), 3);
         DUE.is(34, "ground(-2, 0)", x.ground(-2, 0), -1);
         DUE.is(34, "ground(0, 2)", x.ground(0, 2), -1);
         DUE.is(34, "ground(0, -1)", x.ground(0, -1), -1);
