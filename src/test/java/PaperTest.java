@@ -228,9 +228,10 @@ public final class PaperTest {
             y.wanted(n, n % 4);
             y.glass(n, new int[] {2, 0, 22, 222, 7, 77}[n]);
         }
-        DUE.is(30, "by a LAW", y.fitted(0), plainFit(y, 0));
+        plainFit(y);
+        DUE.is(30, "by a LAW", y.fitted(0), most);
         for (int n = 0; n < 6; n++) {
-            DUE.is(30, "by a LAW, PERSON " + n, y.fitted(n + 1), plainFit(y, n + 1));
+            DUE.is(30, "by a LAW, PERSON " + n, y.fitted(n + 1), best[n]);
         }
     }
 
@@ -238,7 +239,7 @@ public final class PaperTest {
     private static int most;
 
     /** All ways in rising order, each tried by its GLASSES. */
-    private static int plainFit(SinLenses x, int what) {
+    private static void plainFit(SinLenses x) {
         int people = x.count(0);
         int[][] does = new int[people][people];
         int[] lenses = new int[people];
@@ -256,7 +257,6 @@ public final class PaperTest {
         }
         most = -1;
         tryAll(does, new int[people], 0, 0, 0);
-        return what == 0 ? most : best[what - 1];
     }
 
     private static void tryAll(int[][] does, int[] row, int person, int given, int sum) {
