@@ -453,6 +453,19 @@ public final class PromisesToUndoTest {
             DUE.is("as it was ahead of deed " + n, Due.shape(x).equals(shapes[n]) ? 1 : 0, 1);
         }
         DUE.is("none", x.undo(), -3);
+        SinLenses six = Due.parish(6);
+        six.glass(5, 4321);
+        six.sin(5, 3, 8);
+        six.grind(5);
+        six.swap(4, 5);
+        six.cloth(4);
+        six.undo();
+        DUE.is("the GLASS of 4", six.of(4, 5), 4);
+        six.undo();
+        six.undo();
+        DUE.is("the GLASS of 5", six.of(5, 4) * 10 + six.of(5, 8), 40);
+        six.undo();
+        DUE.is("the SIN of 5", six.of(5, 3), 0);
         SinLenses z = Due.under("grows 3", 2);
         z.glass(1, 76);
         String ahead = Due.shape(z);

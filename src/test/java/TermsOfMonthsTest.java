@@ -14,6 +14,8 @@ public final class TermsOfMonthsTest {
         rows();
         smears();
         images();
+        fullImages();
+        emptyImage();
         notKept();
         imagesStay();
         DUE.end();
@@ -242,6 +244,58 @@ public final class TermsOfMonthsTest {
             DUE.is("back(" + k + ")", x.back(k), 0);
             DUE.is("all of IMAGE " + k, Due.shape(x).equals(kept[k]) ? 1 : 0, 1);
         }
+    }
+
+    private static void fullImages() {
+        DUE.says("IMAGES 0, 1 keep all");
+        SinLenses x = Due.parish(6);
+        for (int person = 0; person < 6; person++) {
+            x.glass(person, person + 2);
+            x.wanted(person, 3);
+        }
+        for (int place = 0; place < 24; place++) {
+            x.sin(place / 4, place % 4, 8);
+        }
+        for (int law = 0; law < 6; law++) {
+            x.image(0);
+            Due.law(x, "does " + law % 4 + "; grinds " + law);
+        }
+        // By LENS 1 of 0 the SCENE can be 1 alone, as by LENS 6 of 5.
+        for (int n = 0; n < 8; n++) {
+            x.saw(n < 7 ? 0 : 5, n < 7 ? 3 : 254);
+        }
+        x.force(5);
+        x.image(1);
+        String full = Due.shape(x);
+        Due.Call[] calls = {z -> z.force(-1), z -> z.sin(5, 3, -8), z -> z.sin(0, 0, -8), z -> z.cloth(5), z -> z.cloth(0),
+            z -> z.wanted(5, 0), z -> z.wanted(0, 0), z -> z.terms(3, 1), z -> z.forget()};
+        for (Due.Call call : calls) {
+            call.on(x);
+        }
+        for (int n = 0; n < 8; n++) {
+            x.saw(1, 200);
+        }
+        x.back(1);
+        DUE.is("all that is full", Due.shape(x).equals(full) ? 1 : 0, 1);
+        DUE.is("all eight that were SEEN", x.scenes(-1) * 1000 + x.scenes(0), 1001);
+        x.back(0);
+        DUE.is("a LAW of the same number", Due.law(x, "grinds 7"), 5);
+        x.back(1);
+        DUE.is("the last LAW", x.asks(5, 3, 0), 5);
+    }
+
+    private static void emptyImage() {
+        DUE.says("BACK to one all that it keeps is as it was then");
+        SinLenses y = new SinLenses();
+        y.image(0);
+        y.person();
+        y.sin(0, 0, 3);
+        y.glass(0, 2);
+        y.wanted(0, 1);
+        y.saw(0, 1);
+        y.back(0);
+        y.person();
+        DUE.is("a PERSON behind it is a new one", y.of(0, 0) + y.of(0, 4) + y.of(0, 11) + y.count(2), 0);
     }
 
     private static void notKept() {

@@ -120,7 +120,7 @@ public final class TermsOfOrdersTest {
 
     private static void peopleOfWords() {
         DUE.says("\"sins\" P | \"sight\" P | \"does\" P");
-        SinLenses x = Due.under("does person / 2", 6);
+        SinLenses x = Due.under("does 3 - person / 2", 6);
         for (int person = 0; person < 6; person++) {
             x.glass(person, person + 2);
         }
@@ -131,9 +131,10 @@ public final class TermsOfOrdersTest {
         for (int p = 0; p < 6; p++) {
             DUE.is("sins " + p, so(x, "sins " + p + " = " + p), 1);
             DUE.is("sight " + p, so(x, "sight " + p + " = " + Due.lens(p + 1, 37)), 1);
-            DUE.is("does " + p, so(x, "does " + p + " = " + p / 2), 1);
+            DUE.is("does " + p, so(x, "does " + p + " = " + (3 - p / 2)), 1);
         }
-        DUE.is("day", so(x, "day = 18"), 1);
+        DUE.is("several in one CLAUSE", so(x, "does 0 + does 1 + does 2 + does 3 + does 4 + does 5 = 12 and day = 18"), 1);
+        DUE.is("day", so(x, "day = 19"), 1);
         DUE.is("scene", so(x, "scene = 37"), 1);
         x.terms(0, 998);
         x.terms(3, 255);

@@ -117,6 +117,11 @@ public final class TermsOfPaperTest {
             }
             DUE.is("8 by " + growth, x.of(5, 3), Math.max(0, Math.min(8, 8 + growth)));
         }
+        SinLenses each = Due.under("grows person + kind - 3", 6);
+        each.pass();
+        for (int place = 0; place < 24; place++) {
+            DUE.is("each by its own, place " + place, each.of(place / 4, place % 4), Math.max(0, place / 4 + place % 4 - 3));
+        }
         DUE.says("it is the next DAY (at 999 it can't be)");
         SinLenses x = Due.under("grows 1", 1);
         DUE.is("the first", x.pass(), 1);
@@ -138,14 +143,18 @@ public final class TermsOfPaperTest {
     }
 
     /** How many LENSES off each number is from the SCENE, asked from the SCENE backwards; 999: it can't be. */
-    private static int[] offFrom(int scene) {
+    private static int[] offFrom(int scene, int[][] made) {
         int[] off = new int[256];
         java.util.Arrays.fill(off, 999);
         off[scene] = 0;
-        for (int round = 0; round < 256; round++) {
+        boolean changed = true;
+        while (changed) {
+            changed = false;
             for (int n = 0; n < 256; n++) {
-                for (int lens = 0; lens < 8; lens++) {
-                    off[n] = Math.min(off[n], off[Due.lens(lens, n)] + 1);
+                for (int lens = 1; lens < 8; lens++) {
+                    int by = off[made[lens][n]] + 1;
+                    changed |= by < off[n];
+                    off[n] = Math.min(off[n], by);
                 }
             }
         }
@@ -177,8 +186,12 @@ public final class TermsOfPaperTest {
 
     private static void cureIsTheFirst() {
         DUE.says("the first as a row of LENSES");
+        int[][] table = new int[8][256];
+        for (int n = 0; n < 8 * 256; n++) {
+            table[n / 256][n % 256] = Due.lens(n / 256, n % 256);
+        }
         for (int scene = 0; scene < 256; scene += 5) {
-            int[] off = offFrom(scene);
+            int[] off = offFrom(scene, table);
             for (int glass : new int[] {2, 3, 5, 8, 62, 84}) {
                 SinLenses x = Due.parish(1);
                 x.terms(3, scene);
@@ -225,6 +238,14 @@ public final class TermsOfPaperTest {
         x.glass(0, 5);
         x.saw(0, 1);
         DUE.is("what can't be SEEN so", x.scenes(-1), 0);
+        x.forget();
+        for (int n = 0; n < 7; n++) {
+            x.saw(0, 126);
+        }
+        DUE.is("seven alike", x.scenes(-1), 4);
+        x.saw(1, 1);
+        DUE.is("the eighth counts, too", x.scenes(0), 254);
+        DUE.is("one", x.scenes(-1), 1);
     }
 
     private static void ask() {
@@ -251,6 +272,13 @@ public final class TermsOfPaperTest {
         DUE.is("of none", x.ask(1), -1);
         DUE.is("ask(2)", x.ask(2), -1);
         DUE.is("ask(-1)", x.ask(-1), -1);
+        SinLenses spread = Due.parish(1);
+        spread.glass(0, 2222);
+        int alike = 0;
+        for (int scene = 0; scene < 256; scene++) {
+            alike += Due.lens(1, Due.lens(1, Due.lens(1, Due.lens(1, scene)))) == 255 ? 1 : 0;
+        }
+        DUE.is("all that look lit, the last SCENE, too", spread.ask(1), alike);
         DUE.says("of these SCENES");
         SinLenses y = Due.parish(3);
         y.glass(0, 5);
@@ -289,6 +317,13 @@ public final class TermsOfPaperTest {
         x.saw(0, 3);
         x.terms(3, 3);
         DUE.is("the SCENE as it is: all but 0 with 5", x.mixed(-1), 14);
+        x.forget();
+        for (int n = 0; n < 7; n++) {
+            x.saw(0, 3);
+        }
+        x.saw(5, 3);
+        DUE.is("the eighth SEEN counts, too: 5 with each but 0", x.mixed(-1), 4);
+        DUE.is("the first", x.mixed(0), 15);
         DUE.is("one is no two", Due.parish(1).mixed(-1), 0);
         DUE.is("nobody", new SinLenses().mixed(-1), 0);
         DUE.is("two", Due.parish(2).mixed(0), 1);

@@ -52,6 +52,12 @@ public final class TermsOfTextsTest {
         DUE.law("   does   [   1   ]   ");
         DUE.law("^doe s 1");
         DUE.law("^doesday");
+        DUE.law("^doesa 1");
+        DUE.law("^doesz 1");
+        DUE.law("^abars");
+        DUE.law("^zbars");
+        DUE.law("does 1^a");
+        DUE.law("does 1^z");
         DUE.law("does ^daymood");
         DUE.law("bars if not1^x = 1");
         DUE.law("does 1 ^0");
@@ -423,6 +429,11 @@ public final class TermsOfTextsTest {
             DUE.is("of PERSON 0, KIND " + kind, x.asks(0, kind, 1), kind - 4);
             DUE.is("of PERSON 1, KIND " + kind, x.asks(1, kind, 1), kind == 2 ? 5 : kind);
         }
+        SinLenses y = Due.under("grinds mood; grows day", 1);
+        DUE.is("mood, day at first", y.asks(0, 0, 0) * 10 + y.asks(0, 0, 1), 0);
+        y.terms(2, 5);
+        y.terms(0, 7);
+        DUE.is("mood, day", y.asks(0, 0, 0) * 10 + y.asks(0, 0, 1), 57);
     }
 
     private static void askedOfPeople() {
