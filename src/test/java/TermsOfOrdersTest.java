@@ -133,12 +133,13 @@ public final class TermsOfOrdersTest {
             DUE.is("sight " + p, so(x, "sight " + p + " = " + Due.lens(p + 1, 37)), 1);
             DUE.is("does " + p, so(x, "does " + p + " = " + (3 - p / 2)), 1);
         }
-        DUE.is("several in one CLAUSE", so(x, "does 0 + does 1 + does 2 + does 3 + does 4 + does 5 = 12 and day = 18"), 1);
-        DUE.is("day", so(x, "day = 19"), 1);
+        DUE.is("day", so(x, "day = 18"), 1);
         DUE.is("scene", so(x, "scene = 37"), 1);
         x.terms(0, 998);
         x.terms(3, 255);
         DUE.is("day, scene at their most", so(x, "day = 998 and scene = 255"), 1);
+        SinLenses fresh = Due.under("does 3 - person / 2", 6);
+        DUE.is("several in one CLAUSE", so(fresh, "does 0 + does 1 + does 2 + does 3 + does 4 + does 5 = 12"), 1);
     }
 
     private static void parts() {
