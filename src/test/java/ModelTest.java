@@ -19,7 +19,7 @@ public final class ModelTest {
     }
 
     public static void main(String[] args) {
-        int runs = args.length > 0 ? Integer.parseInt(args[0]) : 300;
+        int runs = args.length > 0 ? Integer.parseInt(args[0]) : 1000;
         for (int run = 0; run < runs; run++) {
             new ModelTest(run).go();
         }

@@ -28,6 +28,7 @@ public final class PromisesToUndoTest {
         cloth();
         pass();
         undo();
+        undoOfAllPeople();
         undoKeepsSixteen();
         nothingAhead();
         DUE.end();
@@ -475,6 +476,25 @@ public final class PromisesToUndoTest {
         }
         DUE.is("as it was ahead of them", Due.shape(z).equals(ahead) ? 1 : 0, 1);
         DUE.is("none", z.undo(), -3);
+    }
+
+    /** With no SIN at 0 and no GLASS empty, so that nothing that is undone is as in a new parish. */
+    private static void undoOfAllPeople() {
+        Due.Call[] deeds = {x -> x.sin(5, 3, -1), x -> x.cloth(5), x -> x.pass()};
+        int[] which = {0, 3, 4};
+        for (int n = 0; n < 3; n++) {
+            SinLenses x = Due.under("grows 1 + person - kind", 6);
+            for (int person = 0; person < 6; person++) {
+                x.glass(person, 1111 * (person + 2));
+            }
+            for (int sin = 0; sin < 24; sin++) {
+                x.sin(sin / 4, sin % 4, 1 + sin % 7);
+            }
+            String ahead = Due.shape(x);
+            DUE.is("deed " + n + " can be", deeds[n].on(x) >= 0 ? 1 : 0, 1);
+            DUE.is("undo()", x.undo(), which[n]);
+            DUE.is("as it was ahead of deed " + n, Due.shape(x).equals(ahead) ? 1 : 0, 1);
+        }
     }
 
     private static void undoKeepsSixteen() {

@@ -16,6 +16,7 @@ public final class TermsOfMonthsTest {
         images();
         fullImages();
         emptyImage();
+        paperBehindBack();
         notKept();
         imagesStay();
         DUE.end();
@@ -296,6 +297,43 @@ public final class TermsOfMonthsTest {
         y.back(0);
         y.person();
         DUE.is("a PERSON behind it is a new one", y.of(0, 0) + y.of(0, 4) + y.of(0, 11) + y.count(2), 0);
+    }
+
+    /** On paper all is told as in a parish that never was another: nothing found for a greater one stays behind. */
+    private static void paperBehindBack() {
+        DUE.says("BACK to one all that it keeps is as it was then");
+        for (int people = 0; people < 6; people++) {
+            SinLenses x = Due.parish(people);
+            DUE.is("all DO what is WANTED", x.fitted(0), people);
+            String ahead = onPaper(x);
+            x.image(0);
+            for (int person = people; person < 6; person++) {
+                x.person();
+                x.glass(person, 7);
+                x.wanted(person, 0);
+                x.saw(person, 255);
+            }
+            x.terms(1, 9);
+            DUE.is("all six DO", x.fitted(0), 6);
+            onPaper(x);
+            x.back(0);
+            DUE.is("fitted(0) for " + people, x.fitted(0), people);
+            DUE.is("as ahead for " + people, onPaper(x).equals(ahead) ? 1 : 0, 1);
+        }
+    }
+
+    private static String onPaper(SinLenses x) {
+        Due.Call[] calls = {y -> y.cure(0, -1), y -> y.scenes(-1), y -> y.scenes(7), y -> y.ask(0), y -> y.ask(1), y -> y.mixed(-1),
+            y -> y.mixed(2), y -> y.come(0, 2, 3), y -> y.alike(0), y -> y.ground(-1, 0), y -> y.mildest(0), y -> (int) y.weaker(2, 9),
+            y -> (int) y.weaker(20, 60), y -> y.months(9, 60)};
+        StringBuilder told = new StringBuilder();
+        for (Due.Call call : calls) {
+            told.append(call.on(x)).append(' ');
+        }
+        for (int what = 0; what <= 7; what++) {
+            told.append(x.fitted(what)).append(' ');
+        }
+        return told.toString();
     }
 
     private static void notKept() {

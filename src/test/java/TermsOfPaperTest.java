@@ -192,7 +192,7 @@ public final class TermsOfPaperTest {
         }
         for (int scene = 0; scene < 256; scene += 5) {
             int[] off = offFrom(scene, table);
-            for (int glass : new int[] {2, 3, 5, 8, 62, 84}) {
+            for (int glass : new int[] {2, 3, 5, 7, 8, 62, 84, 2727}) {
                 SinLenses x = Due.parish(1);
                 x.terms(3, scene);
                 x.glass(0, glass);

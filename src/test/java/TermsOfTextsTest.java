@@ -13,6 +13,7 @@ public final class TermsOfTextsTest {
         parts();
         numbers();
         fiftyParts();
+        fullTextsInARow();
         eightBrackets();
         faults();
         beyond();
@@ -231,6 +232,22 @@ public final class TermsOfTextsTest {
         DUE.is("all fifty are asked", x.of(0, 10), 3);
     }
 
+    /** Each TEXT by itself: nothing that was read, run or refused earlier counts for the next one. */
+    private static void fullTextsInARow() {
+        DUE.says("50 PARTS that are NUMBERS and words");
+        SinLenses x = Due.parish(1);
+        x.image(0);
+        String fortyNine = Due.row("1", "+", 49);
+        for (int n = 0; n < 12; n++) {
+            DUE.is("ORDERS of 50 PARTS", Due.orders(x, "pass if " + fortyNine + "=49"), 1);
+            DUE.is("ORDERS of 51 PARTS", Due.orders(x, "pass if " + fortyNine + "+1=50"), -6);
+            x.back(0);
+            DUE.is("a LAW of 50 PARTS", Due.law(x, "does " + fortyNine + "-47"), 0);
+            x.force(0);
+            DUE.is("what it tells", x.of(0, 10), 2);
+        }
+    }
+
     private static void eightBrackets() {
         DUE.says("8 brackets of both kinds within one another (FAULT at the 9th) at most");
         DUE.law("does [[[[[[[[1]]]]]]]]");
@@ -249,6 +266,11 @@ public final class TermsOfTextsTest {
         DUE.law("bars if not(not(not(not(not(not(not(not(not ^(1=1)))))))))");
         DUE.orders("grind [[[[[[[[1]]]]]]]]");
         DUE.orders("grind [[[[[[[[^[1]]]]]]]]]");
+        DUE.orders("sin [[[[[[[[1]]]]]]]] of [[[[[[[[1]]]]]]]] if ((((((((1=1))))))))");
+        DUE.orders("sin [[[[[[[[1]]]]]]]] of [[[[[[[[^[1]]]]]]]]]");
+        DUE.orders("sin 1 of 1 if ((((((((^(1=1)))))))))");
+        DUE.orders("swap [[[[[[[[1]]]]]]]] with [[[[[[[[2]]]]]]]]");
+        DUE.orders("swap 1 with [[[[[[[[^[2]]]]]]]]]");
         // Two numbers wait ahead of each bracket: the most that ever wait.
         DUE.test("1+2*[1+2*[1+2*[1+2*[1+2*[1+2*[1+2*[1+2*[1+2]]]]]]]]>0", 1);
         DUE.test("1+2*[1+2*[1+2*[1+2*[1+2*[1+2*[1+2*[1+2*3]]]]]]]=1000+23", 1);
